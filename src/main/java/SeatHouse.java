@@ -488,6 +488,10 @@ public final class SeatHouse {
         return n >= 0 && n <= most;
     }
 
+    private static boolean holds(int bits, int place) {
+        return (bits >> place & 1) != 0;
+    }
+
     private static int cellOf(int ward, int party) {
         return ward * PARTIES + party;
     }
@@ -527,7 +531,7 @@ public final class SeatHouse {
     }
 
     /** Above 0: the first PRICE is dearer; below 0: the other. Nothing below the line is FREE. */
-    private static int compare(long above, long below, long otherAbove, long otherBelow) {
+    private static int comparePrices(long above, long below, long otherAbove, long otherBelow) {
         if (below == 0 && otherBelow == 0) {
             return Long.compare(above, otherAbove);
         }
@@ -662,10 +666,6 @@ public final class SeatHouse {
         }
     }
 
-    private static boolean holds(int bits, int place) {
-        return (bits >> place & 1) != 0;
-    }
-
     /** Seats GIVEN to some with VOTES and LEASTS; places are numbers of LISTS or of PARTIES. */
     private static final class Giver {
         final int[] got = new int[PARTIES];
@@ -736,7 +736,7 @@ public final class SeatHouse {
                     continue;
                 }
                 int sign = best < 0 ? 1
-                        : compare(nextAbove[place], nextBelow[place], nextAbove[best], nextBelow[best]);
+                        : comparePrices(nextAbove[place], nextBelow[place], nextAbove[best], nextBelow[best]);
                 if (sign > 0) {
                     best = place;
                     asGood = 0;
@@ -798,7 +798,7 @@ public final class SeatHouse {
                 int n = next ? got[place] + 1 : got[place];
                 long itsAbove = poll.priceAbove(way, weights[place], n);
                 long itsBelow = poll.markAbove(way, n);
-                int sign = compare(itsAbove, itsBelow, above, below);
+                int sign = comparePrices(itsAbove, itsBelow, above, below);
                 if (!found || (next ? sign > 0 : sign < 0)) {
                     above = itsAbove;
                     below = itsBelow;

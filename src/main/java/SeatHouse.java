@@ -1286,7 +1286,7 @@ public final class SeatHouse {
         /** Puts all cells from place i on, until a place isn't there. */
         boolean copyIn(int row, int i, int[] cells) {
             for (int cell = 0; cell < CELLS; cell++) {
-                if (i < 0 || i > MOST_PLACES || !put(row, i + cell, cells[cell])) {
+                if (!put(row, i + cell, cells[cell])) {
                     return false;
                 }
             }

@@ -446,6 +446,12 @@ public final class PromiseTest {
         is("a", x.loses(-1, 5), -2);
         is("b", x.loses(5, 61), -2);
         is("b below a", x.loses(5, 4), -2);
+        x.vote(0, 0, 2);
+        x.vote(0, 2, 6);
+        is("party 0 loses", x.loses(4, 60), 11);
+        is("party 0 is it", x.loser(11), 0);
+        x.vote(0, 0, 6);
+        x.vote(0, 2, 2);
         x.way(0);
         is("divisors never", x.loses(0, 60), -5);
         x.way(6);
@@ -750,11 +756,22 @@ public final class PromiseTest {
         x.vote(0, 1, 0);
         is("after vote again, party 1 is out", x.cell(0, 0) + x.cell(1, 0), 3);
 
+        x = with("4,3/1,3");
+        x.seats(1, 1);
+        is("H is 1", x.solve(), 0);
+        is("of the greater total", x.cell(1, 1), 1);
+        x.vote(0, 2, 2);
+        is("three parties", x.cell(1, 1), 1);
+        x.join(2, 0);
+        is("after join", x.cell(1, 0), 1);
+
         promise = "29 solve, 200 rings";
         x = with("21,6,57,43,56,163/29,19,20,12,78,67/75,61,20,0,7,123/38,88,48,62,50,6");
         seats(x, 15, 15, 15, 15);
         x.way(1);
         is("200 at most", x.solve(), 200);
+        is("where the 200th leaves it", x.spellPlan(), 47);
+        paperIs(x, "1,0,3,2,2,7/2,1,1,1,5,5/4,4,1,0,0,6/1,4,3,3,3,1");
         x.row(2, 40);
         is("laid", x.lay(2, 16), 24);
         is("a better one is left", x.judge(2, 16, 0), 2);
@@ -779,11 +796,11 @@ public final class PromiseTest {
         x.seats(3, 0);
 
         promise = "32 judge, a ring of 4";
-        x = with("10,0,0,5/5,10,0,0/0,5,10,0/0,0,5,10");
+        x = with("0,0,10,0,0,5/0,0,5,10,0,0/0,0,0,5,10,0/0,0,0,0,5,10");
         seats(x, 1, 1, 1, 1);
         x.row(0, 24);
-        setRow(x, 0, 0, 0, 0, 1, 0, 0, 1, 0, 0, 0, 0, 0, 0, 1, 0, 0, 0, 0, 0, 0, 1);
-        int[] longest = {4, 0, 1, 2, 3, 0, 1, 2, 3};
+        setRow(x, 0, 0, 0, 0, 0, 0, 1, 0, 0, 1, 0, 0, 0, 0, 0, 0, 1, 0, 0, 0, 0, 0, 0, 1);
+        int[] longest = {4, 0, 1, 2, 3, 2, 3, 4, 5};
         for (int what = 0; what < 9; what++) {
             is("what " + what, x.judge(0, 0, what), longest[what]);
         }
@@ -946,6 +963,16 @@ public final class PromiseTest {
         x.row(0, 31);
         is("0 in a shorter one", x.get(0, 30), 0);
         is("shorter", x.get(0, 31), NO);
+
+        promise = "39 lay, all of a row";
+        x = with("1,10/10,1");
+        seats(x, 1, 1);
+        x.row(2, 24);
+        is("from 0", x.lay(2, 0), 24);
+        is("0 1", x.get(2, 1), 1);
+        is("1 0", x.get(2, 6), 1);
+        is("from 1", x.lay(2, 1), -13);
+        is("0 1 there", x.get(2, 2), 1);
 
         promise = "39 lay";
         x = with("1,10/10,1");

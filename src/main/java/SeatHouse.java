@@ -128,12 +128,12 @@ public final class SeatHouse {
         if (letter < 1 || letter > 127) {
             return BAD;
         }
-        return tape.takeByte(letter) ? tape.length : FULL;
+        return tape.takeByte(letter) ? tape.used : FULL;
     }
 
     public int clear() {
-        int was = tape.length;
-        tape.length = 0;
+        int was = tape.used;
+        tape.used = 0;
         return was;
     }
 
@@ -142,7 +142,7 @@ public final class SeatHouse {
             return NONE;
         }
         int numbers = tape.parse(ward, wouldBe, poll);
-        tape.length = 0;
+        tape.used = 0;
         if (numbers > 0) {
             poll.copyFrom(wouldBe);
             plan.forget();
@@ -309,13 +309,13 @@ public final class SeatHouse {
         if (fault != 0) {
             return fault;
         }
-        sheet.length = 0;
+        sheet.used = 0;
         sheet.putSeats(nowHouse.partySeats, 0);
-        return sheet.length;
+        return sheet.used;
     }
 
     public int paper(int i) {
-        return i < 0 || i >= sheet.length ? NONE : sheet.bytes[i];
+        return i < 0 || i >= sheet.used ? NONE : sheet.bytes[i];
     }
 
     // ---- the plan
@@ -369,14 +369,14 @@ public final class SeatHouse {
         if (done < 0) {
             return done;
         }
-        sheet.length = 0;
+        sheet.used = 0;
         for (int ward = 0; ward < WARDS; ward++) {
             if (ward > 0) {
                 sheet.putByte(SLASH);
             }
             sheet.putSeats(plan.seated, cellOf(ward, 0));
         }
-        return sheet.length;
+        return sheet.used;
     }
 
     public int told(int what) {
@@ -396,8 +396,8 @@ public final class SeatHouse {
             case 3: return poll.theBar;
             case 4: return poll.toldAbove;
             case 5: return poll.toldBelow;
-            case 6: return tape.length;
-            case 7: return sheet.length;
+            case 6: return tape.used;
+            case 7: return sheet.used;
             case 8: return poll.listBits();
             case 9: return poll.wardBits();
             default: return NONE;
@@ -1167,13 +1167,13 @@ public final class SeatHouse {
     /** THE TAPE. */
     private static final class Tape {
         private final int[] bytes = new int[MOST_BYTES];
-        int length;
+        int used;
 
         boolean takeByte(int letter) {
-            if (length < 0 || length >= MOST_BYTES) {
+            if (used < 0 || used >= MOST_BYTES) {
                 return false;
             }
-            bytes[length++] = letter;
+            bytes[used++] = letter;
             return true;
         }
 
@@ -1191,7 +1191,7 @@ public final class SeatHouse {
                 }
                 copy.cast[cellOf(ward, party)] = value;
                 at += figures;
-                if (at >= length) {
+                if (at >= used) {
                     return count;
                 }
                 if (bytes[at] == COMMA && party < PARTIES - 1) {
@@ -1200,6 +1200,7 @@ public final class SeatHouse {
                     ward++;
                     party = 0;
                 } else {
+                    // a WARD that there isn't begins behind its /
                     return FAULTS_FROM - (bytes[at] == SLASH ? at + 1 : at);
                 }
                 at++;
@@ -1209,7 +1210,7 @@ public final class SeatHouse {
 
         private int figuresAt(int from) {
             int count = 0;
-            while (count < MOST_FIGURES && from + count < length && isFigure(bytes[from + count])) {
+            while (count < MOST_FIGURES && from + count < used && isFigure(bytes[from + count])) {
                 count++;
             }
             return count;
@@ -1231,11 +1232,11 @@ public final class SeatHouse {
     /** THE PAPER: the longest text, a plan of two figures each, has 71 bytes. */
     private static final class Sheet {
         final int[] bytes = new int[MOST_BYTES];
-        int length;
+        int used;
 
         void putByte(int letter) {
-            if (length >= 0 && length < MOST_BYTES) {
-                bytes[length++] = letter;
+            if (used >= 0 && used < MOST_BYTES) {
+                bytes[used++] = letter;
             }
         }
 

@@ -1,4 +1,4 @@
-/** For each promise of the document: ordinary inputs, edges and wrong inputs, with answers reckoned by hand. */
+/** For each promise of the document: ordinary inputs, edges and wrong inputs, with answers reckoned by hand (the plan of 200 rings: by Model). */
 public final class PromiseTest {
     private static final long NO = Long.MIN_VALUE;
     private static final int LOW = Integer.MIN_VALUE;

@@ -13,6 +13,8 @@ public final class LanguageTest {
     private static final Pattern METHOD = Pattern.compile(
             "^ {4,8}(?:(?:public|private|static|final) )*(?:int|long|boolean|void) (\\w+)\\(([^)]*)\\) \\{$");
 
+    private static final Pattern FIELD = Pattern.compile("^ {4,8}(?:private )?final [\\w\\[\\]]+ \\w+ = new [^;]+;$");
+
     public static void main(String[] args) throws Exception {
         Due due = new Due("LanguageTest");
         String text = Files.readString(Path.of("src/main/java/SeatHouse.java"));
@@ -32,8 +34,18 @@ public final class LanguageTest {
                 due.is("sign at " + i, text.charAt(i), 32);
             }
         }
+        objects(due, code);
         methods(due, code);
         due.end();
+    }
+
+    /** One room for all calls: whatever is made, is made with an object's fields, and nothing by a call. */
+    private static void objects(Due due, String code) {
+        for (String line : code.split("\n")) {
+            if (Pattern.compile("\\bnew\\b").matcher(line).find()) {
+                due.is("a field's initialiser: " + line.trim(), FIELD.matcher(line).matches() ? 1 : 0, 1);
+            }
+        }
     }
 
     private static void methods(Due due, String code) {

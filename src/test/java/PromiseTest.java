@@ -30,49 +30,13 @@ public final class PromiseTest {
         due.is(promise + ", " + call, got, want);
     }
 
-    /** Votes as a text, from ward 0 on. */
-    private static SeatHouse with(String votes) {
-        SeatHouse x = new SeatHouse();
-        feed(x, votes);
-        is("read " + votes, x.read(0) > 0 ? 1 : 0, 1);
-        return x;
-    }
-
-    private static void feed(SeatHouse x, String text) {
-        for (int i = 0; i < text.length(); i++) {
-            x.feed(text.charAt(i));
-        }
-    }
-
-    private static void seats(SeatHouse x, int... n) {
-        for (int ward = 0; ward < n.length; ward++) {
-            x.seats(ward, n[ward]);
-        }
-    }
-
-    private static String houseOf(SeatHouse x, int h) {
-        StringBuilder text = new StringBuilder();
-        for (int party = 0; party < 6; party++) {
-            text.append(party == 0 ? "" : ",").append(x.house(h, party));
-        }
-        return text.toString();
-    }
-
     private static void houseIs(SeatHouse x, int h, String want) {
-        String got = houseOf(x, h);
+        String got = Scene.houseOf(x, h);
         is("house of " + h + " is " + got + ", not " + want, got.equals(want) ? 1 : 0, 1);
     }
 
-    private static String paperOf(SeatHouse x) {
-        StringBuilder text = new StringBuilder();
-        for (int i = 0; x.paper(i) != SeatHouse.NONE; i++) {
-            text.append((char) x.paper(i));
-        }
-        return text.toString();
-    }
-
     private static void paperIs(SeatHouse x, String want) {
-        String got = paperOf(x);
+        String got = Scene.paperOf(x);
         is("paper is " + got + ", not " + want, got.equals(want) ? 1 : 0, 1);
         is("bytes of the paper", x.told(7), want.length());
     }
@@ -187,7 +151,7 @@ public final class PromiseTest {
     }
 
     private static void readIs(SeatHouse x, String text, int ward, int want) {
-        feed(x, text);
+        Scene.feed(x, text);
         is("read \"" + text + "\" from " + ward, x.read(ward), want);
         is("tape behind it", x.told(6), 0);
     }
@@ -251,7 +215,7 @@ public final class PromiseTest {
 
     private static void houses() {
         promise = "13 in";
-        SeatHouse x = with("5,0,3,2");
+        SeatHouse x = Scene.with("5,0,3,2");
         is("with votes", x.in(), 13);
         x.bar(200);
         is("at the bar", x.in(), 13);
@@ -266,7 +230,7 @@ public final class PromiseTest {
         is("none", x.in(), 0);
 
         promise = "14 house";
-        x = with("50,20,20/3,4,3");
+        x = Scene.with("50,20,20/3,4,3");
         String[] want = {"4,2,1,0,0,0", "3,2,2,0,0,0", "3,2,2,0,0,0", "3,2,2,0,0,0", "3,2,2,0,0,0",
             "3,2,2,0,0,0", "4,2,1,0,0,0"};
         for (int way = 0; way < 7; way++) {
@@ -296,7 +260,7 @@ public final class PromiseTest {
         is("nobody is in, nothing to give", x.house(0, 0), 0);
 
         promise = "14 house by rests";
-        x = with("47,16,15,12,6,4");
+        x = Scene.with("47,16,15,12,6,4");
         x.way(6);
         houseIs(x, 10, "5,2,1,1,1,0");
         x.least(5, 1);
@@ -309,13 +273,13 @@ public final class PromiseTest {
         x.least(0, 4);
         x.least(1, 1);
         houseIs(x, 10, "5,2,1,1,1,0");
-        x = with("10,10,10");
+        x = Scene.with("10,10,10");
         x.way(6);
         houseIs(x, 4, "2,1,1,0,0,0");
         houseIs(x, 5, "2,2,1,0,0,0");
 
         promise = "15 list";
-        x = with("50,20,20/3,4,3");
+        x = Scene.with("50,20,20/3,4,3");
         x.join(1, 4);
         x.join(2, 4);
         is("joined", x.list(7, 4), 3);
@@ -341,7 +305,7 @@ public final class PromiseTest {
         houseIs(x, 3, "2,1,0,0,0,0");
 
         promise = "14 house, a list's rests can't be";
-        x = with("30,20,50");
+        x = Scene.with("30,20,50");
         x.way(6);
         x.join(1, 0);
         x.least(1, 2);
@@ -351,7 +315,7 @@ public final class PromiseTest {
 
     private static void ordersOfSeats() {
         promise = "16 given";
-        SeatHouse x = with("50,20,20/3,4,3");
+        SeatHouse x = Scene.with("50,20,20/3,4,3");
         int[] order = {0, 0, 1, 2, 0, 0, 1};
         for (int i = 0; i < 7; i++) {
             is("seat " + i, x.given(7, i), order[i]);
@@ -374,7 +338,7 @@ public final class PromiseTest {
         is("behind the free ones", x.given(4, 3), 0);
 
         promise = "17 tie";
-        x = with("10,10,5,10");
+        x = Scene.with("10,10,5,10");
         is("first", x.tie(1), 10);
         is("second", x.tie(2), 8);
         is("third", x.tie(3), 0);
@@ -395,18 +359,18 @@ public final class PromiseTest {
         is("lists", x.tie(1), 0);
         x.way(6);
         is("rests", x.tie(1), -3);
-        x = with("12,6");
+        x = Scene.with("12,6");
         x.way(3);
         is("root: 12 by root 6 is above 6 by root 2", x.tie(4), 0);
         is("so 0 has it", x.given(4, 3), 0);
-        x = with("100000,99999/100000,99999/100000,99999/100000,99999");
+        x = Scene.with("100000,99999/100000,99999/100000,99999/100000,99999");
         is("near", x.tie(1), 0);
         is("nearer", x.tie(59), 0);
     }
 
     private static void comparedHouses() {
         promise = "18 differ";
-        SeatHouse x = with("50,20,20/3,4,3");
+        SeatHouse x = Scene.with("50,20,20/3,4,3");
         x.way(6);
         is("down, half", x.differ(7, 0, 1), 1);
         is("down, rests", x.differ(7, 0, 6), 0);
@@ -435,7 +399,7 @@ public final class PromiseTest {
         is("h 0", x.alike(0), 127);
 
         promise = "19 loses";
-        x = with("6,6,2");
+        x = Scene.with("6,6,2");
         x.way(6);
         is("first", x.loses(0, 60), 4);
         is("from 3", x.loses(3, 60), 4);
@@ -482,7 +446,7 @@ public final class PromiseTest {
 
     private static void pricesAndSpans() {
         promise = "21 price";
-        SeatHouse x = with("50,20,20/3,4,3");
+        SeatHouse x = Scene.with("50,20,20/3,4,3");
         priceIs(x, 1, 6, 4, 1);
         priceIs(x, 0, 60, 53, 60);
         priceIs(x, 5, 7, 0, 1);
@@ -514,12 +478,12 @@ public final class PromiseTest {
         is("part -1", x.price(0, 1, -1), NO);
         x.bar(500);
         priceIs(x, 2, 1, 23, 1);
-        x = with("100000/100000/100000/100000");
+        x = Scene.with("100000/100000/100000/100000");
         x.way(3);
         priceIs(x, 0, 60, 8000000000L, 177);
 
         promise = "22 span";
-        x = with("50,20,20/3,4,3");
+        x = Scene.with("50,20,20/3,4,3");
         spanIs(x, 7, 0, 23, 2);
         spanIs(x, 7, 1, 12, 1);
         spanIs(x, 0, 0, 53, 1);
@@ -551,14 +515,14 @@ public final class PromiseTest {
         spanIs(x, 7, 1, 53, 4);
         x.bar(400);
         spanIs(x, 60, 0, 53, 61);
-        x = with("7");
+        x = Scene.with("7");
         x.way(1);
         spanIs(x, 60, 0, 14, 121);
     }
 
     private static void quotas() {
         promise = "23 quota";
-        SeatHouse x = with("80,7,7,6");
+        SeatHouse x = Scene.with("80,7,7,6");
         is("down, above", x.quota(10), 1);
         x.way(2);
         is("up, below", x.quota(10), 1);
@@ -580,7 +544,7 @@ public final class PromiseTest {
 
     private static void changedVotes() {
         promise = "25 would";
-        SeatHouse x = with("50,20,20/3,4,3");
+        SeatHouse x = Scene.with("50,20,20/3,4,3");
         is("more", x.would(0, 2, 24, 7), 2);
         is("as now", x.would(0, 2, 20, 7), 1);
         is("none", x.would(0, 2, 0, 7), 0);
@@ -599,7 +563,7 @@ public final class PromiseTest {
         is("one", new SeatHouse().would(0, 0, 1, 1), 1);
 
         promise = "26 needs";
-        x = with("50,20,20/3,4,3");
+        x = Scene.with("50,20,20/3,4,3");
         is("past a tie", x.needs(0, 2, 7), 2);
         is("a tie will do", x.needs(1, 0, 7), 7);
         is("the votes stay", x.votes(-1, -1), 100);
@@ -617,7 +581,7 @@ public final class PromiseTest {
         is("a higher bar", x.needs(3, 5, 7), 25);
         x.least(5, 8);
         is("one that can't be is none", x.needs(3, 5, 7), -5);
-        x = with("100000,100000,98000/0,0,1700");
+        x = Scene.with("100000,100000,98000/0,0,1700");
         is("300", x.needs(1, 2, 1), -5);
         x.vote(1, 2, 1701);
         is("300 will do", x.needs(1, 2, 1), 300);
@@ -633,12 +597,12 @@ public final class PromiseTest {
 
     private static void papers() {
         promise = "27 spell";
-        SeatHouse x = with("50,20,20/3,4,3");
+        SeatHouse x = Scene.with("50,20,20/3,4,3");
         paperIs(x, "");
         is("spelled", x.spell(7), 11);
         paperIs(x, "4,2,1,0,0,0");
         is("two figures", x.spell(60), 14);
-        paperIs(x, houseOf(x, 60));
+        paperIs(x, Scene.houseOf(x, 60));
         is("h", x.spell(61), -2);
         x.least(0, 9);
         is("it can't be", x.spell(1), -3);
@@ -656,17 +620,11 @@ public final class PromiseTest {
         is("far below", x.paper(LOW), -1);
     }
 
-    private static void setRow(SeatHouse x, int row, int... seats) {
-        for (int i = 0; i < seats.length; i++) {
-            x.set(row, i, seats[i]);
-        }
-    }
-
     private static void plans() {
         promise = "29 solve";
-        SeatHouse x = with("1,10/10,1");
+        SeatHouse x = Scene.with("1,10/10,1");
         is("no seats", x.solve(), -3);
-        seats(x, 1, 1);
+        Scene.seats(x, 1, 1);
         is("one ring", x.solve(), 1);
         promise = "30 cell";
         is("cell 0 0", x.cell(0, 0), 0);
@@ -689,7 +647,7 @@ public final class PromiseTest {
         is("nothing there", x.judge(0, 0, 0), -3);
         is("nothing there, what 9", x.judge(0, 0, 9), -1);
         x.row(0, 25);
-        setRow(x, 0, 1, 0, 0, 0, 0, 0, 0, 1);
+        Scene.setRow(x, 0, 1, 0, 0, 0, 0, 0, 0, 1);
         int[] ring = {2, 0, 1, -5, -5, 1, 0, -5, -5};
         for (int what = 0; what < 9; what++) {
             is("what " + what, x.judge(0, 0, what), ring[what]);
@@ -700,21 +658,21 @@ public final class PromiseTest {
         is("place 2: it ends", x.judge(0, 2, 0), -3);
         is("place -1", x.judge(0, -1, 0), -3);
         is("far", x.judge(0, HIGH, 0), -3);
-        setRow(x, 0, 0, 1, 0, 0, 0, 0, 1, 0);
+        Scene.setRow(x, 0, 0, 1, 0, 0, 0, 0, 1, 0);
         for (int what = 0; what < 9; what++) {
             is("none is better, what " + what, x.judge(0, 0, what), -5);
         }
-        setRow(x, 0, 0, 1, 0, 0, 0, 0, 0, 1);
+        Scene.setRow(x, 0, 0, 1, 0, 0, 0, 0, 0, 1);
         is("sums of parties", x.judge(0, 0, 0), -3);
-        setRow(x, 0, 2, -1, 0, 0, 0, 0, -1, 2);
+        Scene.setRow(x, 0, 2, -1, 0, 0, 0, 0, -1, 2);
         is("below 0", x.judge(0, 0, 0), -3);
-        setRow(x, 0, 1, 0, 0, 0, 0, 0, 0, 0, 1);
+        Scene.setRow(x, 0, 1, 0, 0, 0, 0, 0, 0, 0, 1);
         is("no cell of party 2", x.judge(0, 0, 0), -3);
-        setRow(x, 0, 1, 0, 0, 0, 0, 0, 0, 0, 0, 0, 0, 0, 0, 1);
+        Scene.setRow(x, 0, 1, 0, 0, 0, 0, 0, 0, 0, 0, 0, 0, 0, 0, 1);
         is("no cell of ward 2", x.judge(0, 0, 0), -3);
-        setRow(x, 0, HIGH, HIGH, 3, 0, 0, 0, 0, 1, 0, 0, 0, 0, 0, 0);
+        Scene.setRow(x, 0, HIGH, HIGH, 3, 0, 0, 0, 0, 1, 0, 0, 0, 0, 0, 0);
         is("sums beyond an int", x.judge(0, 0, 0), -3);
-        setRow(x, 0, 0, 1, 0, 0, 0, 0, 1, 0);
+        Scene.setRow(x, 0, 0, 1, 0, 0, 0, 0, 1, 0);
         x.way(3);
         is("the plan can't be", x.judge(0, 0, 0), -3);
 
@@ -756,7 +714,7 @@ public final class PromiseTest {
         x.vote(0, 1, 0);
         is("after vote again, party 1 is out", x.cell(0, 0) + x.cell(1, 0), 3);
 
-        x = with("4,3/1,3");
+        x = Scene.with("4,3/1,3");
         x.seats(1, 1);
         is("H is 1", x.solve(), 0);
         is("of the greater total", x.cell(1, 1), 1);
@@ -766,8 +724,8 @@ public final class PromiseTest {
         is("after join", x.cell(1, 0), 1);
 
         promise = "29 solve, 200 rings";
-        x = with("21,6,57,43,56,163/29,19,20,12,78,67/75,61,20,0,7,123/38,88,48,62,50,6");
-        seats(x, 15, 15, 15, 15);
+        x = Scene.with("21,6,57,43,56,163/29,19,20,12,78,67/75,61,20,0,7,123/38,88,48,62,50,6");
+        Scene.seats(x, 15, 15, 15, 15);
         x.way(1);
         is("200 at most", x.solve(), 200);
         is("where the 200th leaves it", x.spellPlan(), 47);
@@ -779,27 +737,27 @@ public final class PromiseTest {
 
     private static void longRings() {
         promise = "32 judge, a ring of 3";
-        SeatHouse x = with("10,0,5/5,10,0/0,5,10");
-        seats(x, 1, 1, 1);
+        SeatHouse x = Scene.with("10,0,5/5,10,0/0,5,10");
+        Scene.seats(x, 1, 1, 1);
         x.row(3, 24);
-        setRow(x, 3, 0, 0, 1, 0, 0, 0, 1, 0, 0, 0, 0, 0, 0, 1, 0);
+        Scene.setRow(x, 3, 0, 0, 1, 0, 0, 0, 1, 0, 0, 0, 0, 0, 0, 1, 0);
         int[] ring = {3, 0, 1, 2, -5, 0, 1, 2, -5};
         for (int what = 0; what < 9; what++) {
             is("what " + what, x.judge(3, 0, what), ring[what]);
         }
         is("begun well", x.solve(), 0);
         promise = "29 solve, a ring of 3";
-        x = with("5,0,10/10,5,0/0,10,5");
-        seats(x, 1, 1, 1);
+        x = Scene.with("5,0,10/10,5,0/0,10,5");
+        Scene.seats(x, 1, 1, 1);
         is("one", x.solve(), 1);
         is("cell", x.cell(0, 2) + x.cell(1, 0) + x.cell(2, 1), 3);
         x.seats(3, 0);
 
         promise = "32 judge, a ring of 4";
-        x = with("0,0,10,0,0,5/0,0,5,10,0,0/0,0,0,5,10,0/0,0,0,0,5,10");
-        seats(x, 1, 1, 1, 1);
+        x = Scene.with("0,0,10,0,0,5/0,0,5,10,0,0/0,0,0,5,10,0/0,0,0,0,5,10");
+        Scene.seats(x, 1, 1, 1, 1);
         x.row(0, 24);
-        setRow(x, 0, 0, 0, 0, 0, 0, 1, 0, 0, 1, 0, 0, 0, 0, 0, 0, 1, 0, 0, 0, 0, 0, 0, 1);
+        Scene.setRow(x, 0, 0, 0, 0, 0, 0, 1, 0, 0, 1, 0, 0, 0, 0, 0, 0, 1, 0, 0, 0, 0, 0, 0, 1);
         int[] longest = {4, 0, 1, 2, 3, 2, 3, 4, 5};
         for (int what = 0; what < 9; what++) {
             is("what " + what, x.judge(0, 0, what), longest[what]);
@@ -809,9 +767,9 @@ public final class PromiseTest {
 
     private static void tooLarge() {
         promise = "29 solve, over";
-        SeatHouse x = with("100000,50000,50000,50000/50000,100000,50000,50000"
+        SeatHouse x = Scene.with("100000,50000,50000,50000/50000,100000,50000,50000"
                 + "/50000,50000,100000,50000/50000,50000,50000,100000");
-        seats(x, 1, 1, 1, 1);
+        Scene.seats(x, 1, 1, 1, 1);
         is("solve", x.solve(), -6);
         is("cell", x.cell(3, 3), -6);
         is("cell of none", x.cell(3, 6), -1);
@@ -823,35 +781,35 @@ public final class PromiseTest {
         x.row(0, 24);
         is("lay", x.lay(0, -1), -6);
         promise = "32 judge, over";
-        setRow(x, 0, 1, 0, 0, 0, 0, 0, 0, 1, 0, 0, 0, 0, 0, 0, 1, 0, 0, 0, 0, 0, 0, 1);
+        Scene.setRow(x, 0, 1, 0, 0, 0, 0, 0, 0, 1, 0, 0, 0, 0, 0, 0, 1, 0, 0, 0, 0, 0, 0, 1);
         is("as begun", x.judge(0, 0, 0), -6);
         is("what 4", x.judge(0, 0, 4), -6);
-        setRow(x, 0, 0, 1, 0, 0, 0, 0, 1, 0);
+        Scene.setRow(x, 0, 0, 1, 0, 0, 0, 0, 1, 0);
         int[] ring = {2, 0, 1, -5, -5, 0, 1, -5, -5};
         for (int what = 0; what < 9; what++) {
             is("a better one ahead of it, what " + what, x.judge(0, 0, what), ring[what]);
         }
         promise = "29 solve, over ahead of a 0";
-        x = with("100000,100000,100000,100000/100000,100000,100000,100000"
+        x = Scene.with("100000,100000,100000,100000/100000,100000,100000,100000"
                 + "/100000,100000,100000,100000/100000,100000,100000,100000");
-        seats(x, 1, 1, 1, 1);
+        Scene.seats(x, 1, 1, 1, 1);
         x.way(2);
         is("marks of 0 come too late", x.solve(), -6);
         x.vote(0, 1, 0);
         x.vote(1, 0, 0);
-        seats(x, 1, 1, 0, 0);
+        Scene.seats(x, 1, 1, 0, 0);
         is("two wards", x.solve(), 0);
 
         promise = "29 solve, over by the order of marks";
-        x = with("50000,50000,50000,50000/50000,50000,50000,50000/50000,50000,50000,50000/50000,50000,50000,50000");
-        seats(x, 1, 1, 1, 1);
+        x = Scene.with("50000,50000,50000,50000/50000,50000,50000,50000/50000,50000,50000,50000/50000,50000,50000,50000");
+        Scene.seats(x, 1, 1, 1, 1);
         x.way(2);
         is("6250000000000000000 times 0", x.solve(), 0);
-        seats(x, 3, 1, 1, 1);
+        Scene.seats(x, 3, 1, 1, 1);
         x.least(0, 3);
         is("times 2, then 0: only rings that begin with ward 1 or more", x.solve(), -6);
-        x = with("100000,100000,100000/100000,100000,100000/100000,100000,100000");
-        seats(x, 1, 1, 1);
+        x = Scene.with("100000,100000,100000/100000,100000,100000/100000,100000,100000");
+        Scene.seats(x, 1, 1, 1);
         x.way(5);
         x.tell(0, 20);
         is("8000000000000000000 times 0", x.solve(), 0);
@@ -866,12 +824,12 @@ public final class PromiseTest {
 
     private static void bounds() {
         promise = "31 bound";
-        SeatHouse x = with("10,3,6/4,12,18/1,1,1");
+        SeatHouse x = Scene.with("10,3,6/4,12,18/1,1,1");
         x.vote(2, 0, 0);
         x.vote(2, 1, 0);
         x.vote(2, 2, 0);
         boundIs(x, 0, 1, NO, NO);
-        seats(x, 1, 2);
+        Scene.seats(x, 1, 2);
         is("solved", x.solve(), 0);
         boundIs(x, 0, 1, 1, 3);
         boundIs(x, 1, 0, 2, 5);
@@ -896,9 +854,9 @@ public final class PromiseTest {
         boundIs(x, 0, 1, 0, 1);
 
         promise = "31 bound, seats where there are no votes";
-        x = with("5,0/5,0");
+        x = Scene.with("5,0/5,0");
         x.vote(0, 1, 8);
-        seats(x, 1, 1);
+        Scene.seats(x, 1, 1);
         x.least(1, 2);
         is("solved", x.solve(), 0);
         is("a seat without votes", x.cell(1, 1), 1);
@@ -911,20 +869,20 @@ public final class PromiseTest {
 
     private static void movedSeats() {
         promise = "33 moved";
-        SeatHouse x = with("10,9/10,9");
+        SeatHouse x = Scene.with("10,9/10,9");
         is("no plan", x.moved(), -3);
-        seats(x, 1, 1);
+        Scene.seats(x, 1, 1);
         is("one", x.moved(), 1);
         x.least(1, 2);
         is("without leasts", x.moved(), 2);
         x.least(1, 0);
         x.bar(480);
         is("those that are in", x.moved(), 0);
-        x = with("10,10");
-        seats(x, 1, 1);
+        x = Scene.with("10,10");
+        Scene.seats(x, 1, 1);
         is("a ward without votes", x.moved(), 1);
         x.way(2);
-        seats(x, 2, 2);
+        Scene.seats(x, 2, 2);
         is("free seats without votes", x.moved(), 2);
     }
 
@@ -965,8 +923,8 @@ public final class PromiseTest {
         is("shorter", x.get(0, 31), NO);
 
         promise = "39 lay, all of a row";
-        x = with("1,10/10,1");
-        seats(x, 1, 1);
+        x = Scene.with("1,10/10,1");
+        Scene.seats(x, 1, 1);
         x.row(2, 24);
         is("from 0", x.lay(2, 0), 24);
         is("0 1", x.get(2, 1), 1);
@@ -975,13 +933,13 @@ public final class PromiseTest {
         is("0 1 there", x.get(2, 2), 1);
 
         promise = "39 lay";
-        x = with("1,10/10,1");
+        x = Scene.with("1,10/10,1");
         is("row", x.lay(4, 0), -1);
         is("row -1", x.lay(-1, 0), -1);
         is("nothing, no plan", x.lay(1, 0), -11);
         x.row(1, 30);
         is("no plan, place", x.lay(1, -1), -3);
-        seats(x, 1, 1);
+        Scene.seats(x, 1, 1);
         for (int i = 0; i < 30; i++) {
             x.set(1, i, 9);
         }
@@ -1008,9 +966,9 @@ public final class PromiseTest {
 
     private static void images() {
         promise = "40 image";
-        SeatHouse x = with("1,10/10,1");
+        SeatHouse x = Scene.with("1,10/10,1");
         is("none yet", x.undo(), -3);
-        seats(x, 1, 1);
+        Scene.seats(x, 1, 1);
         x.least(2, 3);
         x.join(2, 5);
         x.bar(7);

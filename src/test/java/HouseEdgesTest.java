@@ -31,6 +31,7 @@ public final class HouseEdgesTest {
         spans();
         quotas();
         alikeWays();
+        partiesOfOneList();
         wouldBe();
         needed();
         neededVotesAtMost();
@@ -241,6 +242,15 @@ public final class HouseEdgesTest {
         // the rests of 5 are 5, 10, 15, 20, 4, 9, three are left; of 60 they are 18, 15, 12, 9, 6, 3, three are left
         houseIs(x, 5, "0,1,1,1,1,1");
         houseIs(x, 60, "3,6,9,11,14,17");
+        // That too few of these are there can't come up: the cuts leave fewer seats than there are to give to, and each
+        // LEAST that is more takes one of them. Where none is there, the LEASTS and cuts are more than h.
+        edges.says("Terms 1: RESTS: (is there none, and are some left, it can't be)");
+        x = Scene.with("5,5");
+        x.way(6);
+        x.least(0, 3);
+        x.least(1, 3);
+        cantBe(x, 5);
+        houseIs(x, 6, "3,3,0,0,0,0");
         edges.says("Terms 1: RESTS: nothing is left");
         x = Scene.with("30,20,10");
         x.way(6);
@@ -771,6 +781,52 @@ public final class HouseEdgesTest {
         edges.is("all but RESTS", x.alike(10), 63);
         x.way(6);
         edges.is("by RESTS it can't be", x.alike(10), STATE);
+    }
+
+    private static SeatHouse inOneList(String votes, int list) {
+        SeatHouse x = Scene.with(votes);
+        for (int party = 0; party < 6; party++) {
+            x.join(party, list);
+        }
+        return x;
+    }
+
+    private static void partiesOfOneList() {
+        edges.says("18, 24: the seats of all PARTIES, not those of LISTS");
+        SeatHouse x = inOneList("96,2,1,1", 3);
+        edges.is("differ of 60: 59,1,0,0 and 56,2,1,1", x.differ(60, 0, 2), 3);
+        edges.is("alike of 4", x.alike(4), 1 | 2 | 32 | 64);
+        edges.says("19, 20: a PARTY has fewer, although its LIST has more");
+        x = inOneList("6,6,2", 4);
+        x.way(6);
+        edges.is("loses", x.loses(0, 60), 4);
+        edges.is("loser", x.loser(4), 2);
+        edges.says("23: PARTIES whose seats are below or above");
+        x = inOneList("80,7,7,6", 1);
+        edges.is("quota", x.quota(10), 1);
+        edges.says("16, 17, 22: LISTS, not PARTIES");
+        edges.is("given", x.given(10, 9), 1);
+        edges.is("given the next", x.given(10, 10), NONE);
+        edges.is("tie", x.tie(10), 0);
+        spanIs(x, 10, 0, 100, 11);
+        spanIs(x, 10, 1, 10, 1);
+        x = Scene.with("4,4,4");
+        x.join(1, 5);
+        x.join(2, 4);
+        edges.is("tie of LISTS 0, 4, 5", x.tie(1), 16 | 32);
+        edges.is("given to the least LIST", x.given(2, 1), 4);
+        edges.is("the last", x.given(3, 2), 5);
+        edges.says("Terms 1: of several to the least, of the PARTIES of a LIST too");
+        x = inOneList("4,4,4,4,4,4", 2);
+        for (int way = 0; way < 7; way++) {
+            x.way(way);
+            houseIs(x, 1, "1,0,0,0,0,0");
+            houseIs(x, 4, "1,1,1,1,0,0");
+            houseIs(x, 7, "2,1,1,1,1,1");
+        }
+        edges.says("21: by its TOTAL, not by that of its LIST");
+        x = inOneList("6,5", 0);
+        priceIs(x, 1, 2, 5, 2);
     }
 
     private static void wouldBe() {

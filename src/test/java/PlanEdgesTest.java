@@ -625,11 +625,6 @@ public final class PlanEdgesTest {
         // 5 by 7 is more than 2 by 3
         edges.is("the last is the greatest", x.bound(0, 1, 1), 7);
         edges.is("above", x.bound(0, 1, 0), 5);
-        edges.says("Terms 2: BOUND: of a PARTY that is IN");
-        x.bar(380);
-        edges.is("PARTY 0 alone: it has all seats of both", x.in(), 0);
-        x.bar(0);
-        edges.is("those IN again", x.in(), 7);
     }
 
     private static void largeBounds() {

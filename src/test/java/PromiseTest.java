@@ -420,10 +420,10 @@ public final class PromiseTest {
         is("divisors never", x.loses(0, 60), -5);
         x.way(6);
         x.least(0, 2);
-        is("3 can't be: 4 is passed over", x.loses(0, 60), 11);
+        is("with its least 0 leaves 2 none at 3", x.loses(0, 60), 11);
 
         promise = "20 loser";
-        is("ahead of it it can't be", x.loser(4), -5);
+        is("2 has none to lose", x.loser(4), -5);
         x.least(0, 0);
         is("at 4", x.loser(4), 2);
         is("at 11", x.loser(11), 2);

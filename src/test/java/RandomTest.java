@@ -1,6 +1,5 @@
 import java.lang.reflect.Method;
 import java.util.ArrayList;
-import java.util.Arrays;
 import java.util.Collections;
 import java.util.List;
 import java.util.Random;
@@ -14,19 +13,20 @@ public final class RandomTest {
     private final Random random;
     private final Due due;
     private final int run;
-    private final SeatHouse house = new SeatHouse();
-    private final Model model = new Model();
-    private final List<String> calls = new ArrayList<>();
+    private final Twins twins;
+    private final Model model;
     private final int votesKind;
 
     private RandomTest(int run, Due due) {
         this.run = run;
         this.due = due;
+        twins = new Twins("run " + run, due);
+        model = twins.model;
         random = new Random(77777L + run);
         votesKind = random.nextInt(8);
     }
 
-    public static void main(String[] args) throws Exception {
+    public static void main(String[] args) {
         Due due = new Due("RandomTest");
         int runs = args.length > 0 ? Integer.parseInt(args[0]) : RUNS;
         int from = args.length > 1 ? Integer.parseInt(args[1]) : 0;
@@ -36,20 +36,20 @@ public final class RandomTest {
         due.end();
     }
 
-    private void play() throws Exception {
+    private void play() {
         int before = due.wrong();
         if (random.nextInt(5) > 0) {
             begin();
         }
-        while (calls.size() < CALLS && due.wrong() == before) {
+        while (twins.calls.size() < CALLS && due.wrong() == before) {
             step();
         }
         if (due.wrong() != before) {
-            System.out.println("run " + run + ": " + calls);
+            System.out.println("run " + run + ": " + twins.calls);
         }
     }
 
-    private void begin() throws Exception {
+    private void begin() {
         for (int ward = 0; ward < 4; ward++) {
             for (int party = 0; party < 6; party++) {
                 ask("vote", ward, party, votesKind == 6 ? votesOnARing(ward, party) : someVotes());
@@ -80,7 +80,7 @@ public final class RandomTest {
         };
     }
 
-    private void step() throws Exception {
+    private void step() {
         switch (random.nextInt(24)) {
             case 0, 1 -> change();
             case 2 -> readText();
@@ -116,7 +116,7 @@ public final class RandomTest {
         };
     }
 
-    private void change() throws Exception {
+    private void change() {
         switch (MUTE[random.nextInt(MUTE.length)]) {
             case "vote" -> ask("vote", near(4), near(6), random.nextInt(9) == 0 ? near(100001) : someVotes());
             case "seats" -> ask("seats", near(4), near(random.nextInt(3) == 0 ? 31 : 12));
@@ -128,7 +128,7 @@ public final class RandomTest {
         }
     }
 
-    private void readText() throws Exception {
+    private void readText() {
         StringBuilder text = new StringBuilder();
         int wards = 1 + random.nextInt(4);
         for (int w = 0; w < wards; w++) {
@@ -159,7 +159,7 @@ public final class RandomTest {
         ask("read", random.nextInt(3) == 0 ? near(4) : Math.max(0, 4 - wards));
     }
 
-    private void wholeHouse() throws Exception {
+    private void wholeHouse() {
         int h = near(61);
         ask("spell", h);
         for (int i = -1; i < 18; i++) {
@@ -168,7 +168,7 @@ public final class RandomTest {
         ask("house", h, near(6));
     }
 
-    private void wholePlan() throws Exception {
+    private void wholePlan() {
         ask("solve");
         if (random.nextInt(3) == 0) {
             ask("way", List.of(0, 1, 2, 5).get(random.nextInt(4)));
@@ -184,7 +184,7 @@ public final class RandomTest {
         }
     }
 
-    private void rowsAndJudging() throws Exception {
+    private void rowsAndJudging() {
         int row = near(4);
         int place = near(17);
         if (random.nextInt(4) > 0) {
@@ -208,7 +208,7 @@ public final class RandomTest {
     }
 
     /** Told seats with the sums that THE PLAN asks, filled in a random order. */
-    private void setSeats(int row, int place) throws Exception {
+    private void setSeats(int row, int place) {
         int[] wards = new int[4];
         int[] parties = new int[6];
         int all = (int) model.told(1);
@@ -231,7 +231,7 @@ public final class RandomTest {
     }
 
     /** Moves a seat round a ring of two, so that all sums stay. */
-    private void shift(int row, int place) throws Exception {
+    private void shift(int row, int place) {
         int w1 = random.nextInt(4);
         int w2 = random.nextInt(4);
         int p1 = random.nextInt(6);
@@ -249,13 +249,9 @@ public final class RandomTest {
     }
 
     /** Any call with any arguments. */
-    private void wild() throws Exception {
-        Method[] methods = SeatHouse.class.getDeclaredMethods();
-        Arrays.sort(methods, (x, y) -> x.getName().compareTo(y.getName()));
-        Method method = methods[random.nextInt(methods.length)];
-        if (java.lang.reflect.Modifier.isPrivate(method.getModifiers())) {
-            return;
-        }
+    private void wild() {
+        List<Method> face = Twins.face();
+        Method method = face.get(random.nextInt(face.size()));
         int[] arguments = new int[method.getParameterCount()];
         for (int i = 0; i < arguments.length; i++) {
             arguments[i] = near(List.of(2, 4, 6, 10, 30, 60).get(random.nextInt(6)));
@@ -263,26 +259,7 @@ public final class RandomTest {
         ask(method.getName(), arguments);
     }
 
-    private void ask(String name, int... given) throws Exception {
-        Method one = find(SeatHouse.class, name);
-        Method other = find(Model.class, name);
-        Object[] arguments = new Object[one.getParameterCount()];
-        for (int i = 0; i < arguments.length; i++) {
-            arguments[i] = given[i];
-        }
-        String call = name + Arrays.toString(arguments);
-        calls.add(call);
-        long got = ((Number) one.invoke(house, arguments)).longValue();
-        long want = ((Number) other.invoke(model, arguments)).longValue();
-        due.is("run " + run + ": " + call, got, want);
-    }
-
-    private static Method find(Class<?> owner, String name) {
-        for (Method method : owner.getDeclaredMethods()) {
-            if (method.getName().equals(name) && !java.lang.reflect.Modifier.isStatic(method.getModifiers())) {
-                return method;
-            }
-        }
-        throw new IllegalStateException(name);
+    private void ask(String name, int... given) {
+        twins.ask(name, given);
     }
 }
